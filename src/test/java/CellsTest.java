@@ -139,6 +139,42 @@ public final class CellsTest {
         check.due("the question turns nothing", grid.told(0, 0, 0), 0);
     }
 
+    private static void leastOfAllDirections() {
+        NemaGrid grid = new NemaGrid();
+        for (int direction = 0; direction < 15; direction++) {
+            for (int y = 0; y < 4; y++) {
+                for (int x = 0; x < 4; x++) {
+                    grid.turn(x, y, direction);
+                    grid.anchor(x, y, NemaGrid.WEAK, direction, 100);
+                }
+            }
+            grid.turn(1, 1, (direction + 7) % 15);
+            grid.turn(2, 1, (direction + 8) % 15);
+            check.due("both could be " + direction, grid.least(1, 1, true), 0);
+            grid.turn(2, 1, direction);
+            grid.turn(1, 2, (direction + 5) % 15);
+            check.due("both could be " + direction + ", below", grid.least(1, 1, false), 0);
+        }
+    }
+
+    private static void everywhere() {
+        NemaGrid grid = new NemaGrid();
+        grid.grid(3, 2);
+        grid.costs(2, 5);
+        grid.turn(2, 1, 3);
+        check.due("the last cell", grid.energyAnew(), 9 * 7);
+        grid.turn(0, 1, 1);
+        check.due("the last row", grid.energyAnew(), 9 * 7 + 7);
+        grid.turn(2, 0, 14);
+        check.due("the last column", grid.energyAnew(), 7 + 2 * 9 + 5 * 16 + 2);
+        check.due("as kept", grid.energy(), 107);
+        grid.grid(12, 12);
+        grid.turn(11, 11, 2);
+        check.due("the last of all", grid.energyAnew(), 4 * 7);
+        grid.turn(11, 10, 2);
+        check.due("the last two", grid.energyAnew(), 4 * (2 + 2 + 5));
+    }
+
     private static void leastWrongly() {
         NemaGrid grid = new NemaGrid();
         check.outside(grid, "none at the right", () -> grid.least(3, 0, true));
@@ -159,6 +195,8 @@ public final class CellsTest {
         anchorWrongly();
         told();
         least();
+        leastOfAllDirections();
+        everywhere();
         leastWrongly();
         check.end();
     }

@@ -48,6 +48,8 @@ public final class PixelsTest {
             check.outside(grid, "pixel x " + at, () -> grid.pixel(at, 0, 1, 1));
             check.outside(grid, "pixel y " + at, () -> grid.pixel(0, at, 1, 1));
         }
+        check.argument(grid, "no width behind a cell", () -> grid.pixel(1, 1, 0, 1));
+        check.argument(grid, "no height below a cell", () -> grid.pixel(1, 1, 1, 0));
         check.argument(grid, "a cell too far", () -> grid.pixel(3, 0, 2, 1));
         check.argument(grid, "a cell too low", () -> grid.pixel(0, 2, 1, 3));
         check.due("none was made", grid.pixel(0, 0, 4, 4), 0);
@@ -215,6 +217,44 @@ public final class PixelsTest {
         check.due("those with a cell of it are not", goods(grid), 0b000111);
     }
 
+    /** Four quarters of one direction each, with a defect in their middle alone. */
+    private static NemaGrid quarters(int middleX, int middleY) {
+        NemaGrid grid = new NemaGrid();
+        for (int y = 0; y < 4; y++) {
+            for (int x = 0; x < 4; x++) {
+                int top = x <= middleX ? 1 : 5;
+                int bottom = x <= middleX ? 13 : 9;
+                grid.turn(x, y, y <= middleY ? top : bottom);
+            }
+        }
+        return grid;
+    }
+
+    private static void goodRoundPlaces() {
+        for (int middleY = 0; middleY < 3; middleY++) {
+            for (int middleX = 0; middleX < 3; middleX++) {
+                NemaGrid grid = quarters(middleX, middleY);
+                check.due("the winding in the middle", grid.winding(middleX, middleY), 1);
+                check.due("the only defect", grid.defects(), 1);
+                for (int at = 0; at < 16; at++) {
+                    int x = at % 4;
+                    int y = at / 4;
+                    if (at == 8) {
+                        grid = quarters(middleX, middleY);
+                    }
+                    int pixel = grid.pixel(x, y, 1, 1);
+                    boolean isIn = x - middleX >= 0 && x - middleX <= 1 && y - middleY >= 0 && y - middleY <= 1;
+                    check.due("good at " + x + ", " + y, grid.ofPixel(pixel, 2), isIn ? 0 : 1);
+                }
+            }
+        }
+        NemaGrid edges = new NemaGrid();
+        edges.pixel(0, 0, 4, 4);
+        edges.turn(2, 3, 5);
+        edges.turn(3, 3, 10);
+        check.due("no place below the grid", edges.ofPixel(0, 2), edges.defects() == 0 ? 1 : 0);
+    }
+
     private static int goods(NemaGrid grid) {
         int goods = 0;
         for (int pixel = 0; pixel < 6; pixel++) {
@@ -246,6 +286,7 @@ public final class PixelsTest {
         grey();
         flicker();
         good();
+        goodRoundPlaces();
         ofPixelWrongly();
         check.end();
     }

@@ -64,6 +64,20 @@ public final class TicksTest {
         check.due("it goes on", grid.told(0, 1, 0), 13);
     }
 
+    private static void overTheEnd() {
+        NemaGrid grid = new NemaGrid();
+        grid.costs(0, 0);
+        grid.turn(0, 0, 14);
+        grid.anchor(0, 0, NemaGrid.WEAK, 1, 3);
+        check.due("behind 14 comes 0", grid.tick(1), 3 * (4 - 1));
+        check.due("it is 0", grid.told(0, 0, 0), 0);
+        check.due("the next one", grid.tick(1), 3);
+        check.due("it is 1", grid.told(0, 0, 0), 1);
+        grid.anchor(0, 0, NemaGrid.WEAK, 13, 3);
+        check.due("ahead of 1 are 0 and 14", grid.tick(2), 3 * (9 - 1));
+        check.due("it is 14 again", grid.told(0, 0, 0), 14);
+    }
+
     private static void held() {
         NemaGrid grid = new NemaGrid();
         grid.costs(0, 0);
@@ -154,6 +168,7 @@ public final class TicksTest {
         alike();
         fromTheLeft();
         fromTheTop();
+        overTheEnd();
         held();
         drivesComeFirst();
         spentCanFall();

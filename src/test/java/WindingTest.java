@@ -109,6 +109,23 @@ public final class WindingTest {
         }
     }
 
+    /** Along the edges alone, once round would be a winding if cells of 0 stood beyond them. */
+    private static void edges() {
+        for (int side = 2; side <= 12; side++) {
+            NemaGrid grid = new NemaGrid();
+            grid.grid(side, side);
+            for (int y = 0; y < side; y++) {
+                for (int x = 0; x < side; x++) {
+                    grid.turn(x, y, (x + y) % 2 == 0 ? 5 : 10);
+                }
+            }
+            check.due("no defects at the edges of " + side, grid.defects(), 0);
+            check.outside(grid, "no defect of " + side, () -> grid.defect(0, 0));
+            grid.pixel(0, 0, side, side);
+            check.due("all is good at the edges of " + side, grid.ofPixel(0, 2), 1);
+        }
+    }
+
     private static void defects() {
         NemaGrid grid = checkered();
         check.due("defects", grid.defects(), 6);
@@ -141,6 +158,7 @@ public final class WindingTest {
         regions();
         twice();
         regionsWrongly();
+        edges();
         defects();
         check.end();
     }
