@@ -199,6 +199,31 @@ public final class PixelsTest {
         check.due("two of one grey", grid.ofPixel(0, 1), 51);
     }
 
+    private static void flickerOfEach() {
+        NemaGrid grid = new NemaGrid();
+        for (int pixel = 0; pixel < 8; pixel++) {
+            grid.pixel(pixel % 4, pixel / 4, 1, 1);
+            grid.anchor(pixel % 4, pixel / 4, NemaGrid.FIXED, pixel, 1);
+        }
+        int[] greys = {0, 17, 55, 90, 99, 75, 35, 4};
+        grid.tick(9);
+        for (int turned = 0; turned < 8; turned++) {
+            grid.anchor(turned % 4, turned / 4, NemaGrid.FIXED, 4, 1);
+            grid.tick(1);
+            for (int pixel = 0; pixel < 8; pixel++) {
+                boolean isSeen = pixel <= turned && turned - pixel < 7;
+                check.due("flicker of " + pixel, grid.ofPixel(pixel, 1), isSeen ? 99 - greys[pixel] : 0);
+            }
+        }
+        grid.tick(1);
+        check.due("the second one noted 99 alone", grid.ofPixel(1, 1), 0);
+        check.due("the last one not yet", grid.ofPixel(7, 1), 95);
+        grid.tick(5);
+        check.due("the last one not even now", grid.ofPixel(7, 1), 95);
+        grid.tick(1);
+        check.due("the last one now", grid.ofPixel(7, 1), 0);
+    }
+
     private static void good() {
         NemaGrid grid = new NemaGrid();
         grid.pixel(0, 0, 1, 1);
@@ -285,6 +310,7 @@ public final class PixelsTest {
         programWrongly();
         grey();
         flicker();
+        flickerOfEach();
         good();
         goodRoundPlaces();
         ofPixelWrongly();
