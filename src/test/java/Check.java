@@ -12,13 +12,13 @@ final class Check {
         this.test = test;
     }
 
+    /** What is out of a range: the ones next to it, and the furthest. */
+    static int[] beyond(int first, int last) {
+        return new int[] {Integer.MIN_VALUE, first - 1, last + 1, Integer.MAX_VALUE};
+    }
+
     void due(String call, long got, long want) {
-        if (got == want) {
-            right++;
-            return;
-        }
-        wrong++;
-        System.out.println(test + ": " + call + " answered " + got + ", due is " + want);
+        due(call, String.valueOf(got), String.valueOf(want));
     }
 
     void due(String call, String got, String want) {
@@ -27,12 +27,11 @@ final class Check {
             return;
         }
         wrong++;
-        System.out.println(test + ": " + call + " answered\n" + got + "due is\n" + want);
+        System.out.println(test + ": " + call + " answered " + got + ", due is " + want);
     }
 
-    /** The call must throw this very exception, and the object must answer all questions as before. */
-    void fails(NemaGrid grid, String name, Class<? extends RuntimeException> due, Call call) {
-        String before = State.of(grid);
+    /** The call must throw this very exception, and all later calls must answer as if it had not been. */
+    void refused(Grid grid, String name, Class<? extends RuntimeException> due, Call call) {
         String got = "nothing";
         try {
             call.run();
@@ -40,19 +39,19 @@ final class Check {
             got = thrown.getClass().getSimpleName();
         }
         due(name + " throws", got, due.getSimpleName());
-        due(name + " changes", State.of(grid), before);
+        due(name + " changes", Later.difference(grid), "none");
     }
 
-    void outside(NemaGrid grid, String name, Call call) {
-        fails(grid, name, IndexOutOfBoundsException.class, call);
+    void outside(Grid grid, String name, Call call) {
+        refused(grid, name, IndexOutOfBoundsException.class, call);
     }
 
-    void argument(NemaGrid grid, String name, Call call) {
-        fails(grid, name, IllegalArgumentException.class, call);
+    void argument(Grid grid, String name, Call call) {
+        refused(grid, name, IllegalArgumentException.class, call);
     }
 
-    void state(NemaGrid grid, String name, Call call) {
-        fails(grid, name, IllegalStateException.class, call);
+    void state(Grid grid, String name, Call call) {
+        refused(grid, name, IllegalStateException.class, call);
     }
 
     void end() {

@@ -74,6 +74,9 @@ public final class FaceTest {
         List<String> methods = new ArrayList<>();
         List<String> hidden = new ArrayList<>();
         for (Method method : NemaGrid.class.getDeclaredMethods()) {
+            if (method.isSynthetic()) {
+                continue;
+            }
             if (isShown(method.getModifiers())) {
                 methods.add(told(method));
                 check.due(method + " is public", Modifier.isPublic(method.getModifiers()) ? 1 : 0, 1);
@@ -88,7 +91,7 @@ public final class FaceTest {
 
         List<String> fields = new ArrayList<>();
         for (Field field : NemaGrid.class.getDeclaredFields()) {
-            if (isShown(field.getModifiers())) {
+            if (!field.isSynthetic() && isShown(field.getModifiers())) {
                 fields.add(Modifier.toString(field.getModifiers()) + " " + field.getType() + " " + field.getName());
             }
         }
