@@ -10,8 +10,10 @@ public final class LanguageTest {
         // rules 1 and 2
         "\\bpackage\\b", "\\bprotected\\b", "::",
         // rule 4
-        "\\bimport\\s+static\\b", "\\bimport\\s+(?!java\\.util\\.)", "\\bSystem\\.(?!arraycopy)", "Exact\\(",
-        "\\bString\\.\\w", "\\.format\\(", "\\bgetClass\\b", "\\bStream\\b", "\\bMap\\b", "\\bSet\\b",
+        "\\bimport\\s+static\\b",
+        "\\bimport\\s+(?!java\\.util\\.(ArrayList|List|Iterator|Arrays|NoSuchElementException|\\*);)",
+        "\\bSystem\\.(?!arraycopy)", "Exact\\(",
+        "\\bString\\.\\w", "\\.format\\(", "\\bgetClass\\b",
         // rule 5
         "static\\s*\\{",
         // rule 6
@@ -21,7 +23,7 @@ public final class LanguageTest {
         // rule 10
         "\"\\s*\\+|\\+\\s*\"",
         // rule 13
-        "\\bRandom\\b", "\\bThread\\b", "\\bRuntime\\.", "\\bFile\\b", "\\bnative\\b", "\\bvolatile\\b",
+        "\\brandom\\(", "\\bThread\\.", "\\bRuntime\\.", "\\bnative\\b", "\\bvolatile\\b",
     };
     private static final String THROWN = "(IllegalStateException|IllegalArgumentException|IndexOutOfBoundsException"
             + "|ArithmeticException|UnsupportedOperationException|NoSuchElementException|RuntimeException)";
@@ -39,8 +41,8 @@ public final class LanguageTest {
 
     /** Methods and constructors are known by how they stand: indented, with a list of types and a brace behind. */
     private static void methods(String text) {
-        Matcher heads = Pattern.compile("(?m)^( {4,12})(?:\\w[\\w\\[\\]<>, ]* )?(\\w+)\\(([^()]*)\\)\\s*(?:throws [\\w,\\s]+)?\\{")
-                .matcher(text);
+        Matcher heads = Pattern.compile("(?m)^( {4,12})(?:\\w[\\w\\[\\]<>, ]* )?(\\w+)\\(([^()]*)\\)\\s*"
+                + "(?:throws [\\w,\\s]+)?\\{").matcher(text);
         int found = 0;
         while (heads.find()) {
             int end = text.indexOf("\n" + heads.group(1) + "}", heads.start());
@@ -77,7 +79,8 @@ public final class LanguageTest {
                 count(text, "\\bthrow new " + THROWN + "\\((\"[^\"]*\")?\\);"));
         int classes = count(text, "\\b(class|interface|enum|record) \\w+");
         check.due("a few classes", classes <= SOME_TWELVE ? 1 : 0, 1);
-        check.due("one of them is public", count(text, "\\bpublic (final |abstract |static )*(class|interface|enum|record)\\b"), 1);
+        check.due("one of them is public",
+                count(text, "\\bpublic (final |abstract |static )*(class|interface|enum|record)\\b"), 1);
         methods(text);
         check.end();
     }

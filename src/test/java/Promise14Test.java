@@ -8,7 +8,7 @@ public final class Promise14Test {
         check.due(name + ": energy anew", grid.energyAnew(), energy);
     }
 
-    /** "How much the direction b is on from a is the number from -7 to 7"; "how far they are apart is that without its sign" */
+    /** "the number from -7 to 7"; "how far they are apart is that without its sign" */
     private static void eachPair() {
         for (int a = 0; a < 15; a++) {
             Grid across = new Grid();
