@@ -29,6 +29,19 @@ public final class RelaxingTest {
         check.due("it takes 4", other.told(0, 0, 0), 4);
     }
 
+    /** Both others are better than its own, but not alike: "that by which the energy is the least" */
+    private static void bothAreBetter() {
+        Grid behind = corner(7, 8);
+        behind.costs(3, 1);
+        // 3 * 49 + 49 with 0, 3 * 49 + 36 with 14, 3 * 36 + 49 with 1
+        check.due("the one behind is the least", behind.tick(1), 196 - 157);
+        check.due("it takes the one behind", behind.told(0, 0, 0), 1);
+        Grid ahead = corner(7, 8);
+        ahead.costs(1, 3);
+        check.due("the one ahead is the least", ahead.tick(1), 196 - 157);
+        check.due("it takes the one ahead of both", ahead.told(0, 0, 0), 14);
+    }
+
     private static void itsOwnIsAlike() {
         Grid behind = corner(1, 0);
         check.due("its own and the one behind", behind.tick(1), 0);
@@ -211,6 +224,7 @@ public final class RelaxingTest {
 
     public static void main(String[] args) {
         aheadAndBehindAreAlike();
+        bothAreBetter();
         itsOwnIsAlike();
         oneIsTheLeast();
         oneStepATick();
