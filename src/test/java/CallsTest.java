@@ -152,6 +152,32 @@ public final class CallsTest {
         }
     }
 
+    /** At the tick 2000 no tick is left, but all else is as before. */
+    private static void atTheLastTick() {
+        Grid grid = Grids.at(2000);
+        check.due("costs", grid.costs(2, 3), 0);
+        check.due("turn", grid.turn(1, 1, 2), 4 * 10);
+        check.due("anchor", grid.anchor(0, 0, NemaGrid.WEAK, 1, 5), 5);
+        check.due("pixel", grid.pixel(1, 1, 1, 1), 0);
+        check.due("drive", grid.drive(0, 1, 7), 7);
+        check.due("plates", grid.plates(4), 0);
+        check.due("picture", grid.picture(), 0);
+        check.due("told", grid.told(1, 1, 4), 47);
+        check.due("energy", grid.energy(), 52);
+        check.due("work", grid.spent(false), 52);
+        check.due("heat", grid.spent(true), 0);
+        check.due("least", grid.least(2, 2, true), 0);
+        check.due("winding", grid.winding(0, 0), 0);
+        check.due("defects", grid.defects(), 0);
+        check.due("ofPixel", grid.ofPixel(0, 0), 55);
+        check.due("pictured", grid.pictured(0, 3, 3), 99);
+        check.due("ghosts", grid.ghosts(0), 0);
+        check.due("guesses", grid.guesses(0, 3, 3), 2);
+        check.argument(grid, "program", () -> grid.program(0, 2000, 1, 1));
+        check.state(grid, "tick", () -> grid.tick(1));
+        check.due("now", grid.now(), 2000);
+    }
+
     public static void main(String[] args) {
         theLastCall();
         theLastCallOfLongTicks();
@@ -160,6 +186,7 @@ public final class CallsTest {
         theSameAgain();
         manyRefusedOnes();
         longGrids();
+        atTheLastTick();
         check.end();
     }
 }

@@ -192,6 +192,41 @@ public final class FlickerTest {
         check.due("fifty at once", grid.ofPixel(0, 1), 0);
     }
 
+    /** However many ticks there were, it is the last 8 that count. */
+    private static void afterManyTicks() {
+        for (int from = 0; from < 2000; from += 200) {
+            Grid grid = new Grid();
+            grid.pixel(0, 0, 2, 2);
+            grid.plates(2);
+            for (int now = 0; now < from; now += 50) {
+                grid.tick(50);
+            }
+            for (int cycle = 0; cycle < 28; cycle++) {
+                grid.plates(4);
+                grid.tick(3);
+                int before = from + cycle > 0 ? 44 : 0;
+                check.due("before and in the tick " + (from + 7 * cycle + 3), grid.ofPixel(0, 1), before);
+                grid.plates(2);
+                grid.tick(4);
+                check.due("in the tick " + (from + 7 * cycle + 7), grid.ofPixel(0, 1), 44);
+            }
+            grid.plates(4);
+            grid.tick(4);
+            check.due("the tick", grid.now(), from + 200);
+            check.due("in the tick " + (from + 200), grid.ofPixel(0, 1), 44);
+        }
+    }
+
+    private static void theLastTickOfAll() {
+        Grid grid = Grids.at(1950);
+        grid.costs(0, 0);
+        grid.pixel(0, 0, 1, 1);
+        grid.program(0, 2000, 7, 1);
+        grid.tick(50);
+        check.due("the last tick", grid.now(), 2000);
+        check.due("it is noted too", grid.ofPixel(0, 1), 17);
+    }
+
     public static void main(String[] args) {
         withoutAny();
         withOne();
@@ -204,6 +239,8 @@ public final class FlickerTest {
         ofEach();
         notesTheMean();
         ticksOfOneCall();
+        afterManyTicks();
+        theLastTickOfAll();
         check.end();
     }
 }

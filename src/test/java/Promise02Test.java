@@ -136,6 +136,14 @@ public final class Promise02Test {
                 check.due("pixel of round " + round, grid.pixel(i % 4, i / 4, 1, 1), i);
             }
             check.state(grid, "a ninth one of round " + round, () -> grid.pixel(0, 3, 1, 1));
+            for (int i = 0; i < 8; i++) {
+                check.due("flicker of " + i + " in round " + round, grid.ofPixel(i, 1), 0);
+                check.due("direction of " + i + " in round " + round, grid.ofPixel(i, 3), 0);
+                check.due("strength of " + i + " in round " + round, grid.ofPixel(i, 4), 0);
+                grid.drive(i, 3, 50);
+            }
+            grid.tick(3);
+            check.due("it flickers in round " + round, grid.ofPixel(7, 1) > 0 ? 1 : 0, 1);
             grid.grid(4, 4);
         }
     }

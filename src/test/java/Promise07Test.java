@@ -113,6 +113,16 @@ public final class Promise07Test {
         check.due("a drive now is none to come", grid.program(0, 5, 0, 0), 1);
     }
 
+    private static void withoutStrength() {
+        Grid grid = new Grid();
+        grid.turn(0, 0, 3);
+        grid.pixel(0, 0, 2, 2);
+        check.due("no work", grid.drive(0, 7, 0), 0);
+        check.due("the field turns all the same", grid.ofPixel(0, 3), 7);
+        check.due("no work again", grid.drive(0, 14, 0), 0);
+        check.due("and again", grid.ofPixel(0, 3), 14);
+    }
+
     public static void main(String[] args) {
         pixel();
         eight();
@@ -121,6 +131,7 @@ public final class Promise07Test {
         theFirstException();
         work();
         now();
+        withoutStrength();
         check.end();
     }
 }

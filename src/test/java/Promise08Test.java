@@ -197,6 +197,37 @@ public final class Promise08Test {
         check.due("work", grid.spent(false), 0);
     }
 
+    /** The last one of forty is as good as the first one. */
+    private static void theFortieth() {
+        Grid grid = new Grid();
+        for (int i = 0; i < 8; i++) {
+            grid.pixel(i % 4, i / 4, 1, 1);
+        }
+        for (int i = 1; i < 40; i++) {
+            grid.program(6, 2, 3, i);
+        }
+        check.due("the fortieth one", grid.program(7, 1, 14, 100), 40);
+        grid.tick(1);
+        check.due("its direction", grid.ofPixel(7, 3), 14);
+        check.due("its strength", grid.ofPixel(7, 4), 100);
+        for (int pixel = 0; pixel < 7; pixel++) {
+            check.due("none of pixel " + pixel, grid.ofPixel(pixel, 4), 0);
+        }
+        grid.tick(1);
+        check.due("the others", grid.ofPixel(6, 4), 39);
+    }
+
+    /** A drive of the strength 0 for a field of the strength 0 turns that all the same. */
+    private static void withoutStrength() {
+        Grid grid = new Grid();
+        grid.pixel(0, 0, 1, 1);
+        grid.program(0, 1, 9, 0);
+        grid.tick(1);
+        check.due("direction", grid.ofPixel(0, 3), 9);
+        check.due("strength", grid.ofPixel(0, 4), 0);
+        check.due("work", grid.spent(false), 0);
+    }
+
     public static void main(String[] args) {
         pixel();
         eight();
@@ -208,6 +239,8 @@ public final class Promise08Test {
         howMany();
         forty();
         fortyForOneTick();
+        theFortieth();
+        withoutStrength();
         theFirstException();
         theFirstExceptionWithForty();
         nothingNow();

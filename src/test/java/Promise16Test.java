@@ -96,11 +96,37 @@ public final class Promise16Test {
         check.argument(grid, "anchor", () -> grid.anchor(0, 0, NemaGrid.FIXED, 7, 0));
     }
 
+    /** All that can be spent on the greatest grid, again and again: work and heat have no end of their own. */
+    private static void muchWorkAndHeat() {
+        int once = 144 * 100 * 49;
+        Grid grid = new Grid();
+        grid.grid(12, 12);
+        grid.costs(0, 0);
+        grid.pixel(0, 0, 12, 12);
+        for (int times = 1; times <= 39; times++) {
+            check.due("work of drive " + times, grid.drive(0, 7 * times % 15, 100), once);
+            check.due("heat after drive " + times, grid.tick(50), once);
+            dueSpent(grid, "drive " + times, times * once, times * once);
+        }
+        for (int times = 40; times <= 46; times++) {
+            check.due("work of drive " + times, grid.drive(0, 7 * times % 15, 100), once);
+            check.due("heat after drive " + times, grid.tick(7), once);
+            dueSpent(grid, "drive " + times, times * once, times * once);
+        }
+        int direction = grid.told(0, 0, 0);
+        check.due("one more, of work", grid.anchor(0, 0, NemaGrid.WEAK, (direction + 1) % 15, 1), 1);
+        dueSpent(grid, "one more of work", 46 * once + 1, 46 * once);
+        check.due("without a field", grid.drive(0, direction, 0), 0);
+        check.due("one more, of heat", grid.tick(1), 1);
+        dueSpent(grid, "one more of both", 46 * once + 1, 46 * once + 1);
+    }
+
     public static void main(String[] args) {
         asAGridBegins();
         eachKindOfWork();
         workThatFalls();
         heat();
+        muchWorkAndHeat();
         refusedCallsSpendNothing();
         check.end();
     }

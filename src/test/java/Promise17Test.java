@@ -140,12 +140,28 @@ public final class Promise17Test {
         }
     }
 
+    /** Two FIXED ones, seven apart from all that they touch but each other. */
+    private static void theMost() {
+        for (int turned = 0; turned < 2; turned++) {
+            boolean right = turned == 0;
+            Grid grid = new Grid();
+            grid.costs(20, 20);
+            grid.anchor(1, 1, FIXED, 7, 1);
+            grid.anchor(right ? 2 : 1, right ? 1 : 2, FIXED, 8, 1);
+            grid.pixel(1, 1, right ? 2 : 1, right ? 1 : 2);
+            grid.drive(0, 0, 100);
+            check.due("the most, " + (right ? "right" : "below"), grid.least(1, 1, right),
+                    2 * 4900 + 20 + 6 * 20 * 49);
+        }
+    }
+
     public static void main(String[] args) {
         cells();
         cellsOfTheGreatestAndTheSmallest();
         fixed();
         weak();
         fields();
+        theMost();
         sharedOnce();
         eachDirection();
         overTheEnd();

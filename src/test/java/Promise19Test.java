@@ -114,6 +114,23 @@ public final class Promise19Test {
         }
     }
 
+    /** The longest border, with the greatest steps but one: 43 by 7 and one back are 300. */
+    private static void twentyTimesRound() {
+        for (int way = 1; way >= -1; way -= 2) {
+            Grid grid = new Grid();
+            grid.grid(12, 12);
+            for (int at = 0; at < 44; at++) {
+                int side = at / 11;
+                int along = at % 11;
+                int x = side == 0 ? along : side == 1 ? 11 : side == 2 ? 11 - along : 0;
+                int y = side == 0 ? 0 : side == 1 ? along : side == 2 ? 11 : 11 - along;
+                grid.turn(x, y, Math.floorMod(way * 7 * at, 15));
+            }
+            dueRegion(grid, "twenty times round, " + way, way * 20, 0, 0, 11, 11);
+            dueRegion(grid, "not round inside", 0, 1, 1, 10, 10);
+        }
+    }
+
     public static void main(String[] args) {
         corners();
         cornersOfTheGreatest();
@@ -122,6 +139,7 @@ public final class Promise19Test {
         sums();
         aBorderTells();
         moreThanOnceRound();
+        twentyTimesRound();
         theBorderAlone();
         check.end();
     }

@@ -195,6 +195,20 @@ public final class Promise23Test {
         }
     }
 
+    /** Defects and greys go by directions alone, whatever these cost. */
+    private static void withoutEnergy() {
+        Grid grid = Grids.checkered();
+        grid.costs(0, 0);
+        grid.pixel(0, 0, 1, 1);
+        grid.pixel(0, 3, 4, 1);
+        check.due("no energy", grid.energy(), 0);
+        check.due("not good", grid.ofPixel(0, 2), 0);
+        check.due("good", grid.ofPixel(1, 2), 1);
+        check.due("defects", grid.defects(), 6);
+        check.due("winding", grid.winding(1, 0), -1);
+        check.due("grey", grid.ofPixel(1, 0), (99 + 99) / 4);
+    }
+
     public static void main(String[] args) {
         pixel();
         what();
@@ -205,6 +219,7 @@ public final class Promise23Test {
         good();
         goodRoundEachPlace();
         goodWithOneCellOrAll();
+        withoutEnergy();
         goodAtTheEdges();
         notGoodInTheCorners();
         check.end();

@@ -176,6 +176,29 @@ public final class Promise24Test {
         dueNoPicture(grid, 1);
     }
 
+    /** "a picture keeps the plates": each of ten its own */
+    private static void tenPlates() {
+        int[] greys = {0, 17, 55, 90, 99, 75, 35, 4, 4, 35, 75, 99, 90, 55, 17};
+        Grid grid = new Grid();
+        for (int picture = 0; picture < 10; picture++) {
+            grid.plates(picture + 1);
+            check.due("picture", grid.picture(), picture);
+        }
+        grid.plates(14);
+        for (int picture = 0; picture < 10; picture++) {
+            check.due("grey of picture " + picture, grid.pictured(picture, 3, 3), greys[picture + 1]);
+            check.due("guesses of picture " + picture, grid.guesses(picture, 3, 3), 2);
+            check.due("ghosts of picture " + picture, grid.ghosts(picture), 0);
+        }
+        for (int picture = 0; picture < 10; picture++) {
+            grid.turn(3, 3, 2 * (picture + 1) % 15);
+            for (int other = 0; other < 10; other++) {
+                check.due("ghosts of " + other + ", the cell is on the other side of the plates of " + picture,
+                        grid.ghosts(other), other == picture ? 0 : 1);
+            }
+        }
+    }
+
     public static void main(String[] args) {
         pictures();
         cells();
@@ -183,6 +206,7 @@ public final class Promise24Test {
         ghosts();
         ghostsOfNoneAndOfAll();
         ghostsByTicks();
+        tenPlates();
         guesses();
         guessesByThePictureAlone();
         picturesOfAGridBefore();
